@@ -168,7 +168,7 @@ public final class EveryoneWins {
         }
         day.run();
         switch (what) {
-            case 0: return day.without;
+            case 0: return day.emptyHanded;
             case 1: return day.crossed;
             case 2: return day.joy;
             case 3: return day.ribbons;
@@ -673,9 +673,8 @@ public final class EveryoneWins {
             return Integer.bitCount(at(runners, r));
         }
 
+        /** KIND and MORE are left as they are: those of a RACE never change. */
         void become(Races other) {
-            copyRow(other.kind, kind);
-            copyRow(other.more, more);
             copyRow(other.runners, runners);
             copyRow(other.ribbons, ribbons);
             many = other.many;
@@ -852,8 +851,8 @@ public final class EveryoneWins {
         private static final int LONGEST_NUMBER = 4;
 
         private final int[] bytes = new int[TAPE_ROOM];
-        private final int[] tokens = new int[TAPE_ROOM + 1];
-        private final int[] places = new int[TAPE_ROOM + 1];
+        private final int[] tokens = new int[TAPE_ROOM];
+        private final int[] places = new int[TAPE_ROOM];
         int size;
         private int many;
 
@@ -864,7 +863,7 @@ public final class EveryoneWins {
             }
         }
 
-        /** Cuts all that stands here into tokens; behind them comes END, as if it stood at the end. */
+        /** Cuts all that stands here into tokens. */
         void cut() {
             many = 0;
             int end = 0;
@@ -874,9 +873,9 @@ public final class EveryoneWins {
                     keep(i, tokenOf(i, end));
                 }
             }
-            keep(size, END);
         }
 
+        /** Behind the last token there is END, and its place is behind all bytes. */
         int token(int i) {
             return i >= 0 && i < many && i < tokens.length ? tokens[i] : END;
         }
@@ -1138,7 +1137,7 @@ public final class EveryoneWins {
         int joy;
         int ribbons;
         int crossed;
-        int without;
+        int emptyHanded;
 
         Day(Children children, Races races, Texts texts) {
             this.children = children;
@@ -1185,12 +1184,12 @@ public final class EveryoneWins {
 
         void end() {
             crossed = 0;
-            without = 0;
+            emptyHanded = 0;
             for (int c = 0; c < children.many; c++) {
                 if (at(won, c) == 0) {
                     joy += says(WON_NONE, c, NONE, 0);
                     crossed++;
-                    without |= 1 << c;
+                    emptyHanded |= 1 << c;
                 }
             }
         }
@@ -1300,7 +1299,7 @@ public final class EveryoneWins {
         }
 
         private void runFrom(int place) {
-            if (place < joyAhead.length) {
+            if (place >= 0 && place < wonAhead.length && place < joyAhead.length) {
                 copyRow(wonAhead[place], day.won);
                 day.joy = joyAhead[place];
             }
@@ -1313,7 +1312,7 @@ public final class EveryoneWins {
         }
 
         private void keepAhead(int place) {
-            if (place < wonAhead.length) {
+            if (place >= 0 && place < wonAhead.length) {
                 copyRow(day.won, wonAhead[place]);
                 set(joyAhead, place, day.joy);
             }
@@ -1387,7 +1386,7 @@ public final class EveryoneWins {
 
         /** Whether n places from i on lie in it; taken from the size, as a sum could wrap. */
         boolean spans(int i, int n) {
-            return n >= 0 && n <= size && i >= 0 && i <= size - n;
+            return n >= 0 && i >= 0 && i <= size - n;
         }
     }
 }

@@ -29,6 +29,8 @@ public final class BestTests {
         x.enter(2, 0, 7);
         x.enter(0, 0, 7);
         check.dueAll("all run", new long[] {x.let(0), x.let(1), x.let(2)}, -1, x.day(1), x.day(2));
+        Given.law(x, "yards 0; worth runners; none 0;");
+        check.dueAll("no more can run", new long[] {x.let(0), x.let(1), x.let(2)}, -1, 0, 12);
         EveryoneWins y = Given.children(4000, 5000);
         y.race(0, 0);
         y.race(0, 1);
@@ -66,6 +68,8 @@ public final class BestTests {
         check.dueAll("the dearest", new long[] {x.drop(0), x.drop(1), x.drop(2)}, 2, 0, -5);
         Given.law(x, "yards 0; worth 0 - 5; none 0;");
         check.dueAll("of likes the first", new long[] {x.drop(0), x.drop(1), x.drop(2)}, 1, 0, -15);
+        x.enter(0, 0, 1);
+        check.dueAll("also RACE 0", new long[] {x.drop(0), x.drop(1), x.drop(2)}, 0, 1, -10);
         check.due("none is gone", x.count(0), 3);
     }
 
@@ -136,6 +140,11 @@ public final class BestTests {
         check.due("49 are enough for both", x.needs(0, 2), 49);
         check.due("none is needed for one", x.needs(0, 1), 0);
         check.due("6 of 2", x.needs(0, 6), -1);
+        EveryoneWins far = Given.children(0, 9900, 0);
+        far.race(0, 3);
+        far.race(0, 6);
+        check.due("99 at the most", far.needs(0, 1), 99);
+        check.due("99 aren't enough behind a less number", far.needs(2, 1), -1);
         check.due("no CHILD", x.needs(3, 0), -5);
         check.due("no CHILD -1", x.needs(-1, 7), -5);
         check.due("wins 7", x.needs(0, 7), -7);

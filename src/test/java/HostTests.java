@@ -32,12 +32,13 @@ public final class HostTests {
         EveryoneWins x = new EveryoneWins();
         for (int sort = 0; sort <= 2; sort++) {
             check.due("40 of sort " + sort, x.sheet(sort, sort, 40), 1);
+            check.due("the first place", x.cell(sort, 0, 6), 1);
             check.due("the last place", x.cell(sort, 39, 5), 1);
             check.due("a place outside", x.cell(sort, 40, 5), -12);
             check.due("none", x.sheet(sort, sort, 0), 1);
             check.due("no first place", x.cell(sort, 0, 5), -12);
             check.due("again", x.sheet(sort, sort, 40), 1);
-            check.due("all 0", read(x, sort, sort, 39), 0);
+            check.due("all 0", read(x, sort, sort, 39) + read(x, sort, sort, 0), 0);
         }
         check.due("missing", x.sheet(0, -1, 99), 1);
         check.due("is missing", x.cell(0, 0, 1), -11);
@@ -83,6 +84,8 @@ public final class HostTests {
         check.dueAll("as they were", row(x, 0, 2, 5), 1, 1, 2, 3, 4);
         check.due("to its own, back", x.copy(0, 2, 0, 1, 3), 3);
         check.dueAll("as they were, too", row(x, 0, 2, 5), 1, 2, 3, 4, 4);
+        check.due("a whole row", x.copy(1, 0, 0, 2, 3), 3);
+        check.dueAll("came", row(x, 0, 2, 5), 1, 2, 0, 2, 3);
         check.due("none, at the ends", x.copy(0, 5, 1, 3, 0), 0);
         check.due("none of none", x.copy(0, 6, 1, 0, 0), -12);
         check.due("none into none", x.copy(0, 0, 1, 4, 0), -12);

@@ -46,6 +46,15 @@ public final class LotsTests {
         }
         EveryoneWins nobody = new EveryoneWins();
         check.due("no CHILDREN", nobody.drawn(0, 0) + nobody.drawn(0, 1), 0);
+        EveryoneWins lucky = Given.children(9, 8, 7, 6, 5, 4, 3, 2);
+        lucky.drawn(5, 1);
+        for (int c = 0; c < 8; c++) {
+            check.due("LUCK stays as it was", lucky.told(c, 1), 9 - c);
+        }
+        lucky.odds(5, 2, 1, 0);
+        for (int c = 0; c < 8; c++) {
+            check.due("LUCK stays as it was, too", lucky.told(c, 1), 9 - c);
+        }
     }
 
     /** A wins the FLAT; nobody is CROSSED if B wins the EGG. */
@@ -78,7 +87,6 @@ public final class LotsTests {
             }
             x = eggOfTwo();
         }
-        check.due("LUCK stays", x.told(0, 1), 50);
     }
 
     private static void promise28Terms() {
@@ -106,6 +114,7 @@ public final class LotsTests {
         x.put(0, 1, 2);
         x.put(0, 2, 3);
         x.child(9999);
+        x.put(2, 2, 44);
         x.enter(0, 0, 4);
         x.enter(0, 1, 0);
         x.enter(1, 1, 2);

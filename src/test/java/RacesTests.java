@@ -150,6 +150,8 @@ public final class RacesTests {
         for (int what : new int[] {-1, 4, 9, 13, 17, 18, Integer.MAX_VALUE, Integer.MIN_VALUE}) {
             check.due("day(" + what + ")", x.day(what), -1000);
         }
+        x.enter(0, 1, 3);
+        check.dueAll("then nobody has none", new long[] {x.day(0), x.day(1), x.day(2), x.day(3)}, 0, 0, 30 + 7, 4);
         EveryoneWins none = Given.children(0, 0);
         check.dueAll("without RACES", new long[] {none.day(0), none.day(1), none.day(2), none.day(3)}, 3, 2, -10, 0);
         EveryoneWins nobody = new EveryoneWins();
@@ -162,7 +164,7 @@ public final class RacesTests {
         x.race(5, 7);
         x.race(6, 7);
         x.race(7, 7);
-        Given.law(x, "yards 30 - won * 30; worth race * 10 + won; none runners + more + race - 7;");
+        Given.law(x, "yards 30 - won * 30; worth race * 10 + won; none runners + more + race + won - 7;");
         check.dueAll("the day", new long[] {x.day(0), x.day(1), x.day(2), x.day(3)}, 4, 1, 0 + 10 + 21 - 7, 3);
         check.dueAll("WON", new long[] {x.day(10), x.day(11), x.day(12)}, 1, 2, 0);
     }

@@ -23,6 +23,11 @@ public final class TextTests {
         check.due("a second", Given.text(x, "yards 4; worth 5; none 6;"), 2);
         check.due("of nothing", x.text(), -100);
         check.due("THE LAW is as it was", x.count(3), 0);
+        check.due("open ones and a FAULT", Given.text(x, "yards 7 + (((((8 #"), -117);
+        check.due("nothing of it is left", Given.text(x, "yards (((((1))))); worth 2; none 3;"), 3);
+        x.child(0);
+        x.force(3);
+        check.dueAll("it tells", new long[] {x.asks(0, 0, -1, 0), x.asks(1, 0, -1, 0), x.asks(2, 0, -1, 0)}, 1, 2, 3);
     }
 
     private static void full() {
@@ -131,6 +136,14 @@ public final class TextTests {
         fault("yards 1 2", 8);
         fault("Yards 1", 0);
         fault("yardS 1", 0);
+        fault("xards 1", 0);
+        fault("yards apeed", 6);
+        fault("yards speedz", 6);
+        fault("yards speed{", 11);
+        fault("yards speed`", 11);
+        fault("yards 1:", 7);
+        fault("yards 1/", 7);
+        fault("yards 1,", 7);
         fault("yards speeds;", 6);
         fault("yards spee;", 6);
         fault("yards speedluck;", 6);

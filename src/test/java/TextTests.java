@@ -25,8 +25,12 @@ public final class TextTests {
         check.due("THE LAW is as it was", x.count(3), 0);
         check.due("open ones and a FAULT", Given.text(x, "yards 7 + (((((8 #"), -117);
         check.due("nothing of it is left", Given.text(x, "yards (((((1))))); worth 2; none 3;"), 3);
+        for (int i = 0; i < 3; i++) {
+            check.due("a long one and its FAULT", Given.text(x, "yards 1" + "+1".repeat(70) + "#"), -247);
+        }
+        check.due("nothing of them is left", Given.text(x, "yards (((((1))))); worth 2; none 3;"), 4);
         x.child(0);
-        x.force(3);
+        x.force(4);
         check.dueAll("it tells", new long[] {x.asks(0, 0, -1, 0), x.asks(1, 0, -1, 0), x.asks(2, 0, -1, 0)}, 1, 2, 3);
     }
 

@@ -22,6 +22,7 @@ public final class EdgesOfBestTests {
         dropKeepsNumbers();
         orderOfTheLast();
         orderOfFewer();
+        orderOfEach();
         orderKeepsNumbers();
         tieOfTheLast();
         tieOfNone();
@@ -79,6 +80,14 @@ public final class EdgesOfBestTests {
         x.race(0, 7);
         x.race(10, 7);
         best(x, "let", -1, 1, -2);
+        edges.sentence("Promise 16: no more can run than there are CHILDREN");
+        EveryoneWins more = made("yards 0; worth runners; none 0;", 1, 2, 3);
+        more.race(0, 7);
+        more.race(50, 7);
+        best(more, "let", -1, 1, 6);
+        EveryoneWins one = made("yards 0; worth 10 - runners; none 0;", 1, 2);
+        one.race(0, 1);
+        best(one, "spare", -1, 1, 9);
         edges.sentence("Promise 17: nobody is a RUNNER");
         EveryoneWins y = made("yards 0; worth 0 - 1; none 0;", 1, 2, 3);
         y.race(0, 0);
@@ -283,6 +292,34 @@ public final class EdgesOfBestTests {
         for (int many = 0; many <= 6; many++) {
             edges.due(x, "order(0)", orders[many]);
             x.race(0, 1);
+        }
+    }
+
+    private static void orderOfEach() {
+        edges.sentence("Promise 19: each order can be found");
+        for (int many = 2; many <= 6; many++) {
+            orderOfEach("", many);
+        }
+    }
+
+    /** Worth is 1 for each RACE that is run at its place. */
+    private static void orderOfEach(String ahead, int many) {
+        if (ahead.length() == many) {
+            StringBuilder worth = new StringBuilder("0");
+            for (int k = 0; k < many; k++) {
+                worth.append("+(race=").append(ahead.charAt(k) - '1').append(")*(won=").append(k).append(")");
+            }
+            EveryoneWins x = made("yards 0;worth " + worth + ";none 0;", 5000);
+            for (int r = 0; r < many; r++) {
+                x.race(0, 1);
+            }
+            boolean asItIs = "123456".startsWith(ahead);
+            best(x, "order", asItIs ? -1 : Integer.parseInt(ahead), 0, many);
+        }
+        for (char race = '1'; race < '1' + many; race++) {
+            if (ahead.indexOf(race) < 0) {
+                orderOfEach(ahead + race, many);
+            }
         }
     }
 

@@ -1,3 +1,5 @@
+import java.util.ArrayList;
+import java.util.List;
 import java.util.function.Supplier;
 
 /** Boundary cases of promise 7, sentence by sentence: what a TEXT is, where its FAULT is. */
@@ -6,6 +8,7 @@ public final class EdgesOfTextsTests {
 
     public static void main(String[] args) {
         texts();
+        nothingIsLeftOfFaults();
         textsAllFull();
         emptyTape();
         wholeTape();
@@ -98,6 +101,25 @@ public final class EdgesOfTextsTests {
         edges.changesNothing(some, "text()", -100);
     }
 
+    private static void nothingIsLeftOfFaults() {
+        edges.sentence("Promise 7: of a text with a FAULT nothing is left");
+        EveryoneWins x = Given.children(0);
+        for (int i = 0; i < 5; i++) {
+            Given.tape(x, "yards 9" + "+9".repeat(70) + "#");
+            edges.due(x, "text()", -247);
+            Given.tape(x, "yards (((((9#");
+            edges.due(x, "text()", -112);
+            Given.tape(x, "yards 9;worth 9;none 9;9");
+            edges.due(x, "text()", -123);
+        }
+        Given.tape(x, "yards (((((1)))));worth 2;none not not not not not 3;");
+        edges.due(x, "text()", 1);
+        edges.due(x, "force(1)", 0);
+        edges.due(x, "asks(0, 0, -1, 0)", 1);
+        edges.due(x, "asks(1, 0, -1, 0)", 2);
+        edges.due(x, "asks(2, 0, -1, 0)", 0);
+    }
+
     private static void textsAllFull() {
         edges.sentence("Promise 7: FULL is told ahead of the FAULT; then THE TAPE stays");
         edges.changesNothing(States.FULL, "text()", EveryoneWins.FULL);
@@ -187,6 +209,29 @@ public final class EdgesOfTextsTests {
             fault("yards |" + word.toUpperCase() + ";worth 1;none 1;");
             fault("yards |" + word.charAt(0) + ";worth 1;none 1;");
         }
+        edges.sentence("Terms: a WORD of which one letter is another");
+        for (String word : new String[] {"speed", "luck", "won", "more", "runners", "race"}) {
+            for (String other : otherWords(word)) {
+                fault("yards |" + other + ";worth 1;none 1;");
+            }
+        }
+        for (String other : otherWords("yards")) {
+            fault("|" + other + " 1;worth 1;none 1;");
+        }
+        for (String other : otherWords("worth")) {
+            fault("yards 1;|" + other + " 1;none 1;");
+        }
+        for (String other : otherWords("none")) {
+            fault("yards 1;worth 1;|" + other + " 1;");
+        }
+        for (String word : new String[] {"or", "and"}) {
+            for (String other : otherWords(word)) {
+                fault("yards 1 |" + other + " 1;worth 1;none 1;");
+            }
+        }
+        for (String other : otherWords("not")) {
+            fault("yards |" + other + " 1;worth 1;none 1;");
+        }
         edges.sentence("Terms: KEYS can't stand for NAMES, nor NAMES for KEYS");
         for (String key : new String[] {"yards", "worth", "none", "or", "and"}) {
             faultE("|" + key);
@@ -214,8 +259,27 @@ public final class EdgesOfTextsTests {
         fault("yards speed|{;worth 1;none 1;");
         fault("yards speed|`;worth 1;none 1;");
         fault("yards |{;worth 1;none 1;");
+        fault("yards |speedz;worth 1;none 1;");
+        fault("yards |speeda;worth 1;none 1;");
+        fault("yards |zspeed;worth 1;none 1;");
+        fault("yards |a;worth 1;none 1;");
+        fault("yards |z;worth 1;none 1;");
         fault("yards |Speed;worth 1;none 1;");
         fault("yards |sPeed;worth 1;none 1;");
+    }
+
+    /** Of each letter the one ahead and the one behind; of which none is another word. */
+    private static List<String> otherWords(String word) {
+        List<String> others = new ArrayList<>();
+        for (int i = 0; i < word.length(); i++) {
+            for (int by : new int[] {-1, 1}) {
+                char letter = (char) (word.charAt(i) + by);
+                if (letter >= 'a' && letter <= 'z') {
+                    others.add(word.substring(0, i) + letter + word.substring(i + 1));
+                }
+            }
+        }
+        return others;
     }
 
     private static void numbers() {

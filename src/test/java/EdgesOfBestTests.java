@@ -1,3 +1,4 @@
+import java.util.List;
 import java.util.function.Supplier;
 
 /** Boundary cases of promises 16 to 21, sentence by sentence: what would be best. */
@@ -114,7 +115,7 @@ public final class EdgesOfBestTests {
 
     private static void askedTwice() {
         edges.sentence("What would be best is only thought: asked again it is the same");
-        for (Supplier<EveryoneWins> made : java.util.List.of(States.SOME, States.FULL, States.TOLD)) {
+        for (Supplier<EveryoneWins> made : List.of(States.SOME, States.FULL, States.TOLD)) {
             for (String name : ALL) {
                 EveryoneWins x = made.get();
                 long found = Calls.answer(x, name + "(0)");

@@ -1,3 +1,5 @@
+import java.util.function.Supplier;
+
 /** Boundary cases of promises 1 to 6, 8 and 9, sentence by sentence: children, the law. */
 public final class EdgesOfChildrenTests {
     private static final int BAD = EveryoneWins.BAD, FULL = EveryoneWins.FULL;
@@ -204,11 +206,10 @@ public final class EdgesOfChildrenTests {
         edges.sentence("Promise 6: 160 bytes have room, 161 have not");
         for (int n = 1; n <= 5; n++) {
             int rest = n;
-            Edges e = edges;
-            java.util.function.Supplier<EveryoneWins> almost = () -> tapeOf(160 - rest);
-            e.due(almost.get(), "feed(" + n + ", 32, 32, 32, 32, 32)", 160);
+            Supplier<EveryoneWins> almost = () -> tapeOf(160 - rest);
+            edges.due(almost.get(), "feed(" + n + ", 32, 32, 32, 32, 32)", 160);
             for (int more = n + 1; more <= 5; more++) {
-                e.changesNothing(almost, "feed(" + more + ", 32, 32, 32, 32, 32)", FULL);
+                edges.changesNothing(almost, "feed(" + more + ", 32, 32, 32, 32, 32)", FULL);
             }
         }
         for (int n = 1; n <= 5; n++) {
@@ -276,25 +277,20 @@ public final class EdgesOfChildrenTests {
 
     private static void asksTakes() {
         edges.sentence("Promise 9: the first and the last part, CHILD, RACE, WON of 0 .. 6");
-        EveryoneWins x = States.FULL.get();
-        Given.law(x, "");
-        x.back();
-        x.child(1234);
-        x.race(57, 255);
-        EveryoneWins y = Given.children(1, 2, 3, 4, 5, 6, 7, 1234);
+        EveryoneWins x = Given.children(1, 2, 3, 4, 5, 6, 7, 1234);
         for (int r = 0; r < 6; r++) {
-            y.race(57, 255);
+            x.race(57, 255);
         }
-        Given.law(y, "yards race*10+won; worth speed+luck; none more*runners;");
+        Given.law(x, "yards race*10+won; worth speed+luck; none more*runners;");
         for (int wins = 0; wins <= 6; wins++) {
-            edges.due(y, "asks(0, 7, 5, " + wins + ")", 50 + wins);
-            edges.due(y, "asks(0, 7, -1, " + wins + ")", wins);
+            edges.due(x, "asks(0, 7, 5, " + wins + ")", 50 + wins);
+            edges.due(x, "asks(0, 7, -1, " + wins + ")", wins);
         }
-        edges.due(y, "asks(1, 7, 5, 0)", 46);
-        edges.due(y, "asks(1, 0, 5, 0)", 1);
-        edges.due(y, "asks(2, 0, 5, 0)", 56);
+        edges.due(x, "asks(1, 7, 5, 0)", 46);
+        edges.due(x, "asks(1, 0, 5, 0)", 1);
+        edges.due(x, "asks(2, 0, 5, 0)", 56);
         edges.sentence("Promise 9: of no RACE: more, runners, race 0");
-        edges.due(y, "asks(2, 0, -1, 0)", 0);
+        edges.due(x, "asks(2, 0, -1, 0)", 0);
     }
 
     private static void asksRefuses() {

@@ -109,14 +109,6 @@ public final class EdgesOfLotsTests {
         }
     }
 
-    /** CHILD 1 is CROSSED, but if its LUCK is more than that of CHILD 0, which wins the FLAT. */
-    private static EveryoneWins eggOfTwo() {
-        EveryoneWins x = Given.children(1050, 50);
-        x.race(0, 3);
-        x.race(20, 3);
-        return x;
-    }
-
     private static int good(int seed, int seeds) {
         int good = 0;
         for (int i = 0; i < seeds; i++) {
@@ -135,7 +127,7 @@ public final class EdgesOfLotsTests {
 
     private static void oddsOfOne() {
         edges.sentence("Promise 28: of 1 seed");
-        EveryoneWins x = eggOfTwo();
+        EveryoneWins x = Given.eggOfTwo();
         for (int seed = 0; seed < 40; seed++) {
             fraction(x, seed, 1, 0, good(seed, 1), 1);
             edges.due(x, "drawn(" + seed + ", 0)", 1 - good(seed, 1));
@@ -144,7 +136,7 @@ public final class EdgesOfLotsTests {
 
     private static void oddsOfSixty() {
         edges.sentence("Promise 28: of 1 .. 60 seeds, SEED and each 1 more");
-        EveryoneWins x = eggOfTwo();
+        EveryoneWins x = Given.eggOfTwo();
         for (int seeds = 1; seeds <= 60; seeds++) {
             fraction(x, 0, seeds, 0, good(0, seeds), seeds);
             fraction(x, 99, seeds, 0, good(99, seeds), seeds);
@@ -153,7 +145,7 @@ public final class EdgesOfLotsTests {
 
     private static void oddsBeyondTheSeeds() {
         edges.sentence("Promise 28: they may pass 99999");
-        EveryoneWins x = eggOfTwo();
+        EveryoneWins x = Given.eggOfTwo();
         for (int seed = 99930; seed <= 99999; seed++) {
             fraction(x, seed, 60, 0, good(seed, 60), 60);
         }

@@ -70,6 +70,14 @@ public final class EdgesOfTextsTests {
         edges.due(e, x, "text()", 1);
         edges.due(e, x, "force(1)", 0);
         edges.due(e, x, "asks(1, 0, 1, 2)", want);
+        Given.tape(x, "yards 0;worth 0;none " + e + ";");
+        edges.due(e, x, "text()", 2);
+        edges.due(e, x, "force(2)", 1);
+        edges.due(e, x, "asks(2, 0, 1, 2)", want);
+        Given.tape(x, "yards " + e + ";worth 0;none 0;");
+        edges.due(e, x, "text()", 3);
+        edges.due(e, x, "force(3)", 2);
+        edges.due(e, x, "asks(0, 0, 1, 2)", Math.max(0, want));
     }
 
     private static void texts() {

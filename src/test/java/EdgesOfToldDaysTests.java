@@ -1,3 +1,4 @@
+import java.util.List;
 import java.util.function.Supplier;
 
 /** Boundary cases of promises 22 to 26, sentence by sentence: told days. */
@@ -422,7 +423,7 @@ public final class EdgesOfToldDaysTests {
     private static void filmRefuses() {
         edges.sentence("Promise 26: BAD, no such SHEET");
         for (String s : new String[] {"-1", "4", "MIN", "MAX"}) {
-            for (Supplier<EveryoneWins> made : java.util.List.of(States.NOTHING, States.SOME, States.FULL)) {
+            for (Supplier<EveryoneWins> made : List.of(States.NOTHING, States.SOME, States.FULL)) {
                 edges.changesNothing(made, "film(" + s + ")", BAD);
             }
         }

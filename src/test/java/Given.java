@@ -11,6 +11,14 @@ final class Given {
         return x;
     }
 
+    /** CHILD 0 wins the FLAT; nobody is CROSSED if CHILD 1 wins the EGG, by more LUCK. */
+    static EveryoneWins eggOfTwo() {
+        EveryoneWins x = children(1050, 50);
+        x.race(0, 3);
+        x.race(20, 3);
+        return x;
+    }
+
     static void tape(EveryoneWins x, String bytes) {
         for (char b : bytes.toCharArray()) {
             x.feed(1, b, 0, 0, 0, 0);

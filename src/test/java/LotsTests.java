@@ -58,14 +58,6 @@ public final class LotsTests {
         }
     }
 
-    /** A wins the FLAT; nobody is CROSSED if B wins the EGG. */
-    private static EveryoneWins eggOfTwo() {
-        EveryoneWins x = Given.children(1050, 50);
-        x.race(0, 3);
-        x.race(20, 3);
-        return x;
-    }
-
     private static int good(int seed, int seeds) {
         int good = 0;
         for (int i = 0; i < seeds; i++) {
@@ -75,7 +67,7 @@ public final class LotsTests {
     }
 
     private static void promise28() {
-        EveryoneWins x = eggOfTwo();
+        EveryoneWins x = Given.eggOfTwo();
         for (int seed : new int[] {0, 7, 500, 99990, 99999}) {
             for (int seeds = 1; seeds <= 60; seeds++) {
                 int good = good(seed, seeds);
@@ -86,12 +78,12 @@ public final class LotsTests {
                     return;
                 }
             }
-            x = eggOfTwo();
+            x = Given.eggOfTwo();
         }
     }
 
     private static void promise28Terms() {
-        EveryoneWins x = eggOfTwo();
+        EveryoneWins x = Given.eggOfTwo();
         check.dueAll("all", new long[] {x.odds(3, 30, 1, 0), x.odds(3, 30, 1, 1)}, 1, 1);
         check.dueAll("all, most 8", new long[] {x.odds(3, 60, 8, 0), x.odds(3, 60, 8, 1)}, 1, 1);
         x.enter(0, 0, 0);
